@@ -30,34 +30,25 @@ public final class ImageTexts {
     /** Beyond every object: place, nine ways, a primitive's way and a radius make 12 times LARGEST. */
     private static final long FAR = 20000000L;
 
-    private final char[] text = new char[CHARACTERS];
+    private final Reader reader = new Reader();
     private final Writer writer = new Writer();
     private final int[] habits = new int[HABITS];
     /** What the next object that is made by a call gets, with the corners of the open region. */
     private final Item held = new Item();
-    private int length = 0;
     private boolean open = false;
     private Image image = new Image();
-    /** A text is read into the spare image, so that a wrong text leaves the image alone. */
-    private Image spare = new Image();
-    private final Reader reader = new Reader(text, spare);
 
     public ImageTexts() {
     }
 
     public boolean unit(int u) {
         boolean fits = u == '\n' || (u >= ' ' && u <= '~');
-        if (!fits || length >= text.length) {
-            return false;
-        }
-        text[length] = (char) u;
-        length++;
-        return true;
+        return fits && reader.add((char) u);
     }
 
     public int read() {
-        reader.begin(spare, length);
-        for (int turn = 0; turn < length && reader.hasMore(); turn++) {
+        reader.begin();
+        for (int turn = 0; turn < CHARACTERS && reader.hasMore(); turn++) {
             reader.step();
         }
         int wrong = reader.finish();
@@ -65,12 +56,12 @@ public final class ImageTexts {
             return -1 - wrong;
         }
         Image former = image;
-        image = spare;
-        spare = former;
+        image = reader.image;
+        reader.image = former;
+        reader.length = 0;
         habits[0] = reader.feeds;
         habits[1] = reader.zeros;
         habits[2] = reader.ended ? 0 : 1;
-        length = 0;
         open = false;
         return image.count;
     }
@@ -213,7 +204,7 @@ public final class ImageTexts {
     }
 
     public void clear() {
-        length = 0;
+        reader.length = 0;
         open = false;
         held.reset();
         image.reset();
@@ -795,15 +786,15 @@ public final class ImageTexts {
         }
     }
 
-    /** Reads a text into an image; a wrong text leaves that image half made. */
+    /** Keeps the text and reads it into an image of its own, so that a wrong text leaves the other one alone. */
     private static final class Reader {
         private static final String OUTER_COMMANDS = "MADXBZPNSTE";
         private static final String REGION_COMMANDS = "XZ";
 
-        private final char[] text;
+        private final char[] text = new char[CHARACTERS];
         private final Item held = new Item();
         private final Macro draft = new Macro();
-        private Image image;
+        private Image image = new Image();
         private int length = 0;
         private int place = 0;
         /** Where the command at hand begins. */
@@ -816,16 +807,18 @@ public final class ImageTexts {
         private int feeds = 0;
         private int zeros = 0;
 
-        Reader(char[] text, Image image) {
-            this.text = text;
-            this.image = image;
+        boolean add(char c) {
+            if (length >= text.length) {
+                return false;
+            }
+            text[length] = c;
+            length++;
+            return true;
         }
 
-        void begin(Image target, int size) {
-            image = target;
+        void begin() {
             image.reset();
             held.reset();
-            length = Math.min(size, text.length);
             place = 0;
             start = 0;
             wrong = NONE;
@@ -907,7 +900,7 @@ public final class ImageTexts {
             for (int k = 0; k < PRIMITIVES && peek() == ':'; k++) {
                 place++;
                 draft.growTo(k + 1);
-                sound &= readPrimitive(draft.primitives[k]);
+                sound = readPrimitive(draft.primitives[k]) && sound;
             }
             if (!ends()) {
                 return;
@@ -920,18 +913,17 @@ public final class ImageTexts {
         private boolean readPrimitive(Primitive part) {
             int kind = SHAPE_LETTERS.indexOf(oneOf("CR"));
             boolean sound = putValue(part, 0, kind);
-            sound &= putValue(part, 1, amount(false));
+            sound = putValue(part, 1, amount(false)) && sound;
             take(',');
-            sound &= putValue(part, 2, scaled(amount(false)));
+            sound = putValue(part, 2, scaled(amount(false))) && sound;
             take(',');
             if (kind == RECTANGLE) {
-                sound &= putValue(part, 3, scaled(amount(false)));
+                sound = putValue(part, 3, scaled(amount(false))) && sound;
                 take(',');
             }
-            sound &= putValue(part, 4, scaled(amount(true)));
+            sound = putValue(part, 4, scaled(amount(true))) && sound;
             take(',');
-            sound &= putValue(part, 5, scaled(amount(true)));
-            return sound;
+            return putValue(part, 5, scaled(amount(true))) && sound;
         }
 
         private static boolean putValue(Primitive part, int k, long v) {
