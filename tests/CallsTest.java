@@ -7,6 +7,7 @@ public final class CallsTest {
         apertures();
         apertureNumbers();
         macros();
+        macrosAnew();
         wrongMacros();
         flashes();
         lines();
@@ -77,6 +78,21 @@ public final class CallsTest {
         ImageTexts read = Check.image("F6*M0*M1:R1,2,2,5,5*");
         Check.due("macro(1, 2, 3)", 2, read.macro(1, 2, 3));
         Check.due("its text", "F6*M0*M1:R1,2,2,5,5:C1,3,0,0*E*", Check.written(read));
+    }
+
+    private static void macrosAnew() {
+        ImageTexts x = Check.image("F6*M0:R0,7,8,9,-9:R0,7,8,9,-9*M1:R0,7,8,9,-9*");
+        x.clear();
+        x.macro(NONE, 0, 0);
+        x.macro(NONE, 0, 0);
+        Check.due("macro(1, 0, 1)", 2, x.macro(1, 0, 1));
+        Check.due("what is written", "F6*M0:C1,1,0,0*M1:C1,1,0,0:R1,1,1,0,0*E*", Check.written(x));
+        Check.feed(x, "F6*M0:R0,7,8,9,-9:C0,7,9,9*");
+        x.read();
+        Check.due("macro(3, 4, 5)", 4, x.macro(3, 4, 5));
+        Check.due("macro(2, 0, 1)", 4, x.macro(2, 0, 1));
+        Check.due("macro(1, 0, 1)", 4, x.macro(1, 0, 1));
+        Check.due("what is written", "F6*M0:R0,7,8,9,-9:R0,7,1,9,9:R1,1,1,0,0:C1,1,5,0*E*", Check.written(x));
     }
 
     private static void wrongMacros() {

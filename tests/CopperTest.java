@@ -14,6 +14,7 @@ public final class CopperTest {
         polarity();
         farPlaces();
         linesAgainstBigNumbers();
+        edgesThatAreMetExactly();
         regionsAgainstCrossings();
         Check.close("CopperTest");
     }
@@ -127,7 +128,12 @@ public final class CopperTest {
         in(x, false, 12 * BIG + 1, 11 * BIG);
         long[] far = {Long.MIN_VALUE, Long.MIN_VALUE + 1, -(1L << 62), -(1L << 32), 1L << 31, 1L << 32, 1L << 62,
             Long.MAX_VALUE - 1, Long.MAX_VALUE};
+        // squares and doubles of these wrap around to little ones
+        ImageTexts middle = Check.image("F6*A10C1000000*A11R1000000,1000000*D10*X0Y0D3*D11*X0Y0D3*"
+                + "D10*X0Y0D1*B*X-9Y-9D2*X9Y-9D1*X0Y9D1*Z*");
         for (long a : far) {
+            in(middle, false, a, 0);
+            in(middle, false, 0, a);
             in(x, false, a, 11 * BIG);
             in(x, false, 12 * BIG, a);
             for (long b : far) {
@@ -200,6 +206,27 @@ public final class CopperTest {
         }
         in(x, near(l, r, mx, low), mx, low);
         in(x, near(l, r, mx, high), mx, high);
+    }
+
+    /** Lines along and across which whole lengths fall on whole places, so that the products are equal. */
+    private static void edgesThatAreMetExactly() {
+        for (int m = 600; m < 800; m += 7) {
+            int n = 611 - m / 2;
+            long a = Math.abs(m * m - n * n);
+            long b = 2L * m * n;
+            long c = m * m + n * n;
+            long[] l = {-a, -b, a, b};
+            ImageTexts x = new ImageTexts();
+            x.aperture(0, c, 0);
+            x.line(10, l[0], l[1], l[2], l[3]);
+            in(x, true, -b, a);
+            in(x, true, b, -a);
+            for (int k = 0; k < 9; k++) {
+                long px = -b + k % 3 - 1;
+                long py = a + k / 3 - 1;
+                in(x, near(l, c, px, py), px, py);
+            }
+        }
     }
 
     /** Counts crossings with a way off that no corner lies on: by a slope too small to meet one. */

@@ -63,6 +63,8 @@ public final class ObjectTest {
         same(false, "D10*S2,2,1,1*X1Y2D3*S2,2,1,2*X1Y2D3*");
         same(false, "D10*X1Y2D3*Ta*X1Y2D3*");
         same(false, "D10*Tab*X1Y2D3*Tac*X1Y2D3*");
+        same(false, "D10*Tab*X1Y2D3*Tcb*X1Y2D3*");
+        same(false, "D10*X0Y0D3*B*X0Y0D2*X1Y0D1*X1Y1D1*Z*");
         same(false, "D10*Tab*X1Y2D3*Ta*X1Y2D3*");
         same(false, "B*X0Y0D2*X1Y0D1*X1Y1D1*Z*B*X0Y0D2*X1Y1D1*X1Y0D1*Z*");
         same(false, "B*X0Y0D2*X1Y0D1*X1Y1D1*Z*B*X0Y0D2*X1Y0D1*X1Y1D1*X1Y1D1*Z*");

@@ -14,6 +14,8 @@ public final class TextTest {
         numbers();
         habits();
         whatStaysAndGoes();
+        nothingIsLeftOfOtherTexts();
+        longestText();
         Check.close("TextTest");
     }
 
@@ -69,14 +71,14 @@ public final class TextTest {
         wrong("F6*!**");
         wrong("F6*!Y");
         wrong("F6*!a");
-        wrong("F6* !".replace(" !", "! "));
+        wrong("F6*! ");
     }
 
     private static void wrongForms() {
         wrong("F!*");
         wrong("F!-6*");
         wrong("F6!E*");
-        wrong("F6\n*".replace("\n", "!\n"));
+        wrong("F6!\n*");
         wrong("F0000000!0*");
         wrong("F6*D!*");
         wrong("F6*D10!,*");
@@ -93,8 +95,19 @@ public final class TextTest {
         wrong("F6*M0:C1,1,0!*");
         wrong("F6*M0:C1,1,0,0!,0*");
         wrong("F6*M0:R1,1,1,0!*");
-        wrong("F6*M0:C1,1,--0*".replace("--", "-!-"));
+        wrong("F6*M0:C1,1,-!-0*");
         wrong("F6*M0:C1,1,0,0:C1,1,0,0:C1,1,0,0:C1,1,0,0!:C1,1,0,0*");
+        wrong("F6*M!-0*");
+        wrong("F6*M0:C1,!-1,0,0*");
+        wrong("F6*M0:R1,!-1,1,0,0*");
+        wrong("F6*M0:R1,1,!-1,0,0*");
+        wrong("F6*A!-10C1*");
+        wrong("F6*A10!*");
+        wrong("F6*A10R1,!-1*");
+        wrong("F6*M0*A10M!-0*");
+        wrong("F6*A10C1*D!-10*");
+        wrong("F6*S1,!-1,0,0*");
+        wrong("F6*X1Y1D!*");
         wrong("F6*X1!D3*");
         wrong("F6*X1Y!D3*");
         wrong("F6*X1Y-!*");
@@ -102,7 +115,7 @@ public final class TextTest {
         wrong("F6*X1Y1D!0*");
         wrong("F6*X1Y1D!4*");
         wrong("F6*X1Y1D2!2*");
-        wrong("F6*X12345678Y1D2*".replace("8Y", "!8Y"));
+        wrong("F6*X1234567!8Y1D2*");
         wrong("F6*B!1*");
         wrong("F6*Z!1*");
         wrong("F6*P!N*");
@@ -110,7 +123,7 @@ public final class TextTest {
         wrong("F6*S1,1,0!*");
         wrong("F6*S!-1,1,0,0*");
         wrong("F6*S1,1,0,0!,0*");
-        wrong("F6*TaB*".replace("B", "!B"));
+        wrong("F6*Ta!B*");
         wrong("F6*Tabcdefgh!i*");
         wrong("F6*T!1*");
         wrong("F6*E!E*");
@@ -179,7 +192,7 @@ public final class TextTest {
         wrong("F6!");
         wrong("F6*A99!");
         wrong("F6*M0:!");
-        wrong("F6*X1Y1D4".replace("4", "!4"));
+        wrong("F6*X1Y1D!4");
         wrong("F6*X1Y1D3!");
         wrong("F6*Z!");
         wrong("F6*E!");
@@ -238,6 +251,38 @@ public final class TextTest {
         Check.due("odd(0)", 1, x.odd(0));
         Check.due("odd(1)", 1, x.odd(1));
         Check.due("odd(2)", 0, x.odd(2));
+    }
+
+    private static void nothingIsLeftOfOtherTexts() {
+        ImageTexts x = Check.image("F6*A10C3*D10*N*S2,2,2,2*Tab*X5Y5D1*B*X0Y0D2*X1Y0D1*X0Y1D1*Z*X9Y9D1*");
+        Check.feed(x, "F6*A10C3*B*X0Y0D2*");
+        Check.due("read() of an open region", -19, x.read());
+        x.clear();
+        Check.feed(x, "F6*E");
+        Check.due("read() of what ends too soon", -5, x.read());
+        x.clear();
+        for (int round = 0; round < 3; round++) {
+            Check.feed(x, "F6*A11R3,2*A10C3*D11*X7Y7D3*X8Y8D3*D10*X5Y5D1*");
+            Check.due("read()", 3, x.read());
+            Check.due("what is written", "F6*A10C3*A11R3,2*D11*X7Y7D3*X8Y8D3*D10*X5Y5D1*E*", Check.written(x));
+            for (int k = 0; k < 2; k++) {
+                Check.due("object(" + k + ", 5)", ImageTexts.NONE, x.object(k, 5));
+                Check.due("object(" + k + ", 6)", ImageTexts.NONE, x.object(k, 6));
+                Check.due("object(" + k + ", 9)", 0, x.object(k, 9));
+            }
+        }
+        ImageTexts selected = Check.image("F6*A10C3*D10*");
+        Check.feed(selected, "F6*A10C3*X0Y0D3*");
+        Check.due("read() with nothing selected", -10, selected.read());
+    }
+
+    /** Beyond 512 calls all is free, yet the document names the length. */
+    private static void longestText() {
+        ImageTexts x = new ImageTexts();
+        Check.feed(x, "F6*" + "\n".repeat(2997));
+        Check.due("unit(10), the 3001st", false, x.unit(10));
+        Check.due("read()", 0, x.read());
+        Check.due("odd(0)", 2997, x.odd(0));
     }
 
     private static void whatStaysAndGoes() {
