@@ -258,8 +258,10 @@ public final class TextTest {
         Check.feed(x, "F6*A10C3*B*X0Y0D2*");
         Check.due("read() of an open region", -19, x.read());
         x.clear();
+        Check.feed(x, "F6*E*");
+        Check.due("read() of no objects", 0, x.read());
         Check.feed(x, "F6*E");
-        Check.due("read() of what ends too soon", -5, x.read());
+        Check.due("read() of what ends too soon, a former text was longer", -5, x.read());
         x.clear();
         for (int round = 0; round < 3; round++) {
             Check.feed(x, "F6*A11R3,2*A10C3*D11*X7Y7D3*X8Y8D3*D10*X5Y5D1*");
@@ -269,6 +271,7 @@ public final class TextTest {
                 Check.due("object(" + k + ", 5)", ImageTexts.NONE, x.object(k, 5));
                 Check.due("object(" + k + ", 6)", ImageTexts.NONE, x.object(k, 6));
                 Check.due("object(" + k + ", 9)", 0, x.object(k, 9));
+                Check.due("attribute(" + k + ", 0)", ImageTexts.NONE, x.attribute(k, 0));
             }
         }
         ImageTexts selected = Check.image("F6*A10C3*D10*");
