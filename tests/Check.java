@@ -84,6 +84,17 @@ final class Check {
         return x.read();
     }
 
+    /** The text is WRONG at the place where marked has an !, which is no part of it. */
+    static void wrong(String marked) {
+        int place = marked.indexOf('!');
+        String text = marked.substring(0, place) + marked.substring(place + 1);
+        due("read() of " + marked.replace('\n', '|'), -1 - place, read(text));
+    }
+
+    static void right(int objects, String text) {
+        due("read() of " + text.replace('\n', '|'), objects, read(text));
+    }
+
     static String written(ImageTexts x) {
         StringBuilder text = new StringBuilder();
         for (int i = 0; i < 100000; i++) {

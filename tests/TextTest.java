@@ -19,15 +19,12 @@ public final class TextTest {
         Check.close("TextTest");
     }
 
-    /** The text is WRONG at the place where marked has an !, which is no part of it. */
     private static void wrong(String marked) {
-        int place = marked.indexOf('!');
-        String text = marked.substring(0, place) + marked.substring(place + 1);
-        Check.due("read() of " + marked.replace('\n', '|'), -1 - place, Check.read(text));
+        Check.wrong(marked);
     }
 
     private static void right(int objects, String text) {
-        Check.due("read() of " + text.replace('\n', '|'), objects, Check.read(text));
+        Check.right(objects, text);
     }
 
     private static void units() {
