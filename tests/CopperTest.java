@@ -68,6 +68,11 @@ public final class CopperTest {
         in(x, true, 15 + 4, 20 - 3);
         in(x, false, 15 + 5, 20 - 3);
         in(x, false, 15 - 4, 20 + 4);
+        // 3 * 3 is one above 2 * 2 * 2, the square of the radius by that of the way
+        ImageTexts tight = Check.image("F6*A10C2*D10*X1Y1D1*");
+        in(tight, false, 2, -1);
+        in(tight, false, -1, 2);
+        in(tight, true, 1, -1);
         ImageTexts dot = Check.image("F6*A10C5*D10*X7Y7D2*X7Y7D1*");
         in(dot, true, 10, 11);
         in(dot, false, 11, 11);
@@ -210,7 +215,7 @@ public final class CopperTest {
 
     /** Lines along and across which whole lengths fall on whole places, so that the products are equal. */
     private static void edgesThatAreMetExactly() {
-        for (int m = 600; m < 800; m += 7) {
+        for (int m = 600; m < 800; m++) {
             int n = 611 - m / 2;
             long a = Math.abs(m * m - n * n);
             long b = 2L * m * n;

@@ -5,6 +5,7 @@ public final class ObjectTest {
         likeObjects();
         unlikeObjects();
         likeShapes();
+        likeShapesAnew();
         attributes();
         Check.close("ObjectTest");
     }
@@ -117,6 +118,20 @@ public final class ObjectTest {
             y.flash(11, 0, 0, true);
             Check.due("same(0), another value at " + k, false, y.same(0));
         }
+    }
+
+    /** Primitives of former macros are no part of those that took their places. */
+    private static void likeShapesAnew() {
+        ImageTexts x = Check.image("F6*M0:C1,1,0,0:C1,5,0,0*M1:C1,1,0,0:R1,7,7,0,0:C1,9,9,9*");
+        x.clear();
+        for (int macro = 0; macro < 2; macro++) {
+            x.macro(ImageTexts.NONE, 0, 0);
+            x.aperture(2, macro, 0);
+            x.flash(10 + macro, 3, 3, true);
+        }
+        Check.due("same(0) of two new macros", true, x.same(0));
+        x.macro(1, 2, 1);
+        Check.due("same(0), one of them has grown", false, x.same(0));
     }
 
     private static void attributes() {
