@@ -12,6 +12,7 @@ public final class CommandsTest {
         {"F6*B*", "X0Y0D1*"}, {"F6*B*", "X0Y0D3*"}, {"F6*B*X0Y0D2*", "X0Y0D2*"}, {"F6*B*X0Y0D2*X1Y1D1*", "Z*"}};
 
     public static void main(String[] args) {
+        theNextMacro();
         apertureThatIsNotToldYet();
         macroThatIs();
         apertureThatIsTold();
@@ -28,6 +29,7 @@ public final class CommandsTest {
         firstCharacterByWhichATextIsNone();
         itsFirstCharacterWhenItsStarHasCome();
         atTheTextsEndTheLength();
+        a61stObject();
         noZAheadOfTheEnd();
         lineFeedsAreAHabit();
         zerosAheadAreAHabit();
@@ -41,6 +43,26 @@ public final class CommandsTest {
 
     private static void right(int objects, String text) {
         Check.right(objects, text);
+    }
+
+    /** "M and a WHOLE, the next macro" */
+    private static void theNextMacro() {
+        String told = "F6*";
+        for (int count = 0; count <= 5; count++) {
+            for (int number = 0; number < 8; number++) {
+                if (number == count && count < 5) {
+                    right(0, told + "M" + number + ":C1,1,0,0*");
+                } else {
+                    wrong(told + "!M" + number + ":C1,1,0,0*");
+                }
+            }
+            wrong(told + "!M9999999*");
+            told += "M" + count + "*";
+        }
+        ImageTexts x = new ImageTexts();
+        x.macro(NONE, 0, 0);
+        Check.feed(x, "F6*M1*");
+        Check.due("read(): a macro of calls is none of a text", -4, x.read());
     }
 
     /** "A and a WHOLE, an aperture that is not told yet" */
@@ -281,6 +303,20 @@ public final class CommandsTest {
                     read >= 0 || read == -1 - cut);
         }
         right(3, all);
+    }
+
+    /** "a 61st OBJECT" */
+    private static void a61stObject() {
+        String fiftyNine = "F6*A10C1*D10*" + "X0Y0D3*".repeat(59);
+        String sixty = fiftyNine + "X0Y0D3*";
+        wrong(sixty + "!X0Y0D3*");
+        wrong(sixty + "!X0Y0D1*");
+        wrong(sixty + "!B*");
+        wrong(sixty + "X0Y0D2*\n!X0Y0D3*E*");
+        wrong(sixty + "X0Y0D3!");
+        wrong(sixty + "X0Y0D3!?");
+        wrong(fiftyNine + "X0Y0D1*!X0Y0D3*");
+        wrong(fiftyNine + "B*" + CORNERS + "Z*!X0Y0D3*");
     }
 
     /** "no Z ahead of the end" */
