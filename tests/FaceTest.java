@@ -10,22 +10,24 @@ import java.util.TreeSet;
 /** The public face, and promise 1: a new object. */
 public final class FaceTest {
     private static final String[] FACE = {
-        "aperture(int,long,long):int",
-        "attribute(int,int):int",
+        "aperture(int,long,long):int throws IllegalArgumentException",
+        "attribute(int,int):int throws IndexOutOfBoundsException",
         "clear():void",
-        "corner(long,long):boolean",
-        "flash(int,long,long,boolean):boolean",
+        "corner(long,long):boolean throws IllegalStateException IllegalArgumentException",
+        "flash(int,long,long,boolean):boolean throws IndexOutOfBoundsException IllegalStateException"
+            + " IllegalArgumentException",
         "in(long,long):boolean",
-        "line(int,long,long,long,long):boolean",
-        "macro(int,int,long):int",
-        "object(int,int):int",
-        "odd(int):int",
+        "line(int,long,long,long,long):boolean throws IndexOutOfBoundsException IllegalStateException"
+            + " IllegalArgumentException",
+        "macro(int,int,long):int throws IndexOutOfBoundsException IllegalStateException IllegalArgumentException",
+        "object(int,int):int throws IndexOutOfBoundsException",
+        "odd(int):int throws IndexOutOfBoundsException",
         "read():int",
         "region(boolean):boolean",
-        "repeat(int,int,long,long):int",
-        "same(int):boolean",
+        "repeat(int,int,long,long):int throws IllegalArgumentException",
+        "same(int):boolean throws IndexOutOfBoundsException",
         "unit(int):boolean",
-        "write(int):int",
+        "write(int):int throws IndexOutOfBoundsException",
     };
 
     public static void main(String[] args) {
@@ -62,6 +64,8 @@ public final class FaceTest {
         Constructor<?>[] made = ImageTexts.class.getDeclaredConstructors();
         Check.due("constructors", 1, made.length);
         Check.due("the constructor's parameters", 0, made[0].getParameterCount());
+        Check.due("a public constructor", true, Modifier.isPublic(made[0].getModifiers()));
+        Check.due("a public class", true, Modifier.isPublic(ImageTexts.class.getModifiers()));
         Check.due("a final class", true, Modifier.isFinal(ImageTexts.class.getModifiers()));
     }
 
@@ -70,7 +74,13 @@ public final class FaceTest {
         for (Class<?> c : m.getParameterTypes()) {
             s.append(s.charAt(s.length() - 1) == '(' ? "" : ",").append(c.getName());
         }
-        return s.append("):").append(m.getReturnType().getName()).toString();
+        s.append("):").append(m.getReturnType().getName());
+        String gap = " throws ";
+        for (Class<?> c : m.getExceptionTypes()) {
+            s.append(gap).append(c.getSimpleName());
+            gap = " ";
+        }
+        return s.toString();
     }
 
     private static void innerClassesAreStaticAndNotPublic() {
